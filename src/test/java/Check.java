@@ -1,0 +1,66 @@
+import java.util.function.BooleanSupplier;
+import java.util.function.IntSupplier;
+
+/** Compares answers with those that are due, tells each wrong one by its line, and ends the test. */
+final class Check {
+    private static int wrong = 0;
+    private static int done = 0;
+
+    private Check() {
+    }
+
+    static void is(int want, IntSupplier call) {
+        String got;
+        try {
+            got = Integer.toString(call.getAsInt());
+        } catch (RuntimeException e) {
+            got = e.getClass().getSimpleName();
+        }
+        compare(Integer.toString(want), got);
+    }
+
+    static void yes(BooleanSupplier call) {
+        is(1, () -> call.getAsBoolean() ? 1 : 0);
+    }
+
+    static void no(BooleanSupplier call) {
+        is(0, () -> call.getAsBoolean() ? 1 : 0);
+    }
+
+    static void fails(Class<? extends RuntimeException> want, IntSupplier call) {
+        String got;
+        try {
+            got = Integer.toString(call.getAsInt());
+        } catch (RuntimeException e) {
+            got = e.getClass().getSimpleName();
+        }
+        compare(want.getSimpleName(), got);
+    }
+
+    static void same(String want, String got) {
+        compare(want, got);
+    }
+
+    static void end() {
+        System.out.println(done + " answers looked at, " + wrong + " not as due");
+        if (wrong != 0 || done == 0) {
+            System.exit(1);
+        }
+    }
+
+    private static void compare(String want, String got) {
+        done++;
+        if (!want.equals(got)) {
+            wrong++;
+            System.out.println(place() + ": answered " + got + ", due is " + want);
+        }
+    }
+
+    private static String place() {
+        return StackWalker.getInstance().walk(frames -> frames
+                .filter(f -> !f.getClassName().equals("Check"))
+                .findFirst()
+                .map(f -> f.getFileName() + ":" + f.getLineNumber() + " (" + f.getMethodName() + ")")
+                .orElse("?"));
+    }
+}
