@@ -97,10 +97,7 @@ public final class LightingDesk {
     }
 
     public int update(int list, int cue) throws NoSuchElementException, IllegalStateException {
-        int place = book.find(list, cue);
-        if (place == NONE) {
-            throw new NoSuchElementException("no such cue");
-        }
+        int place = placeOrThrow(list, cue);
         int changed = book.updateSources(programmer, place);
         if (changed == NONE) {
             throw new IllegalStateException("too many moves");
@@ -110,20 +107,14 @@ public final class LightingDesk {
 
     public int delete(int list, int cue, boolean keeping)
             throws NoSuchElementException, IllegalStateException {
-        int place = book.find(list, cue);
-        if (place == NONE) {
-            throw new NoSuchElementException("no such cue");
-        }
+        int place = placeOrThrow(list, cue);
         // Never refused: the next cue keeps at most as many moves as go with this one.
         return book.deleteCue(place, keeping);
     }
 
     public int block(int list, int cue, boolean blocks)
             throws NoSuchElementException, IllegalStateException {
-        int place = book.find(list, cue);
-        if (place == NONE) {
-            throw new NoSuchElementException("no such cue");
-        }
+        int place = placeOrThrow(list, cue);
         int moves = blocks ? book.blockCue(place) : book.unblockCue(place);
         if (moves == NONE) {
             throw new IllegalStateException("too many moves");
@@ -158,10 +149,7 @@ public final class LightingDesk {
 
     public int look(int list, int cue, int channel)
             throws NoSuchElementException, IndexOutOfBoundsException {
-        int place = book.find(list, cue);
-        if (place == NONE) {
-            throw new NoSuchElementException("no such cue");
-        }
+        int place = placeOrThrow(list, cue);
         if (!isChannel(channel)) {
             throw new IndexOutOfBoundsException("no such channel");
         }
@@ -170,10 +158,7 @@ public final class LightingDesk {
 
     public int source(int list, int cue, int channel)
             throws NoSuchElementException, IndexOutOfBoundsException {
-        int place = book.find(list, cue);
-        if (place == NONE) {
-            throw new NoSuchElementException("no such cue");
-        }
+        int place = placeOrThrow(list, cue);
         if (!isChannel(channel)) {
             throw new IndexOutOfBoundsException("no such channel");
         }
@@ -300,6 +285,14 @@ public final class LightingDesk {
 
     private static boolean isTime(int time) {
         return time >= 0 && time <= LONGEST_TIME;
+    }
+
+    private int placeOrThrow(int list, int number) {
+        int place = book.find(list, number);
+        if (place == NONE) {
+            throw new NoSuchElementException("no such cue");
+        }
+        return place;
     }
 
     private boolean isTellable(int tick) {

@@ -10,13 +10,7 @@ final class Check {
     }
 
     static void is(int want, IntSupplier call) {
-        String got;
-        try {
-            got = Integer.toString(call.getAsInt());
-        } catch (RuntimeException e) {
-            got = e.getClass().getSimpleName();
-        }
-        compare(Integer.toString(want), got);
+        compare(Integer.toString(want), answer(call));
     }
 
     static void yes(BooleanSupplier call) {
@@ -28,17 +22,20 @@ final class Check {
     }
 
     static void fails(Class<? extends RuntimeException> want, IntSupplier call) {
-        String got;
-        try {
-            got = Integer.toString(call.getAsInt());
-        } catch (RuntimeException e) {
-            got = e.getClass().getSimpleName();
-        }
-        compare(want.getSimpleName(), got);
+        compare(want.getSimpleName(), answer(call));
     }
 
     static void same(String want, String got) {
         compare(want, got);
+    }
+
+    /** The answer of a call as a text, or the name of the exception that it throws. */
+    static String answer(IntSupplier call) {
+        try {
+            return Integer.toString(call.getAsInt());
+        } catch (RuntimeException e) {
+            return e.getClass().getSimpleName();
+        }
     }
 
     static void end() {

@@ -6,6 +6,7 @@ public final class LimitsTest {
         recordCueOnlyCountsKeptMoves();
         updateCountsNewMoves();
         blockCountsNewMoves();
+        oneMoveTooMany();
         deleteIsNeverRefused();
         Check.end();
     }
@@ -128,6 +129,26 @@ public final class LimitsTest {
         Check.fails(IllegalStateException.class, () -> d.block(1, 30, true));
         Check.is(0, () -> d.block(1, 20, false));
         Check.is(12, () -> d.block(1, 30, true));
+    }
+
+    /** Edits that would come to 601 moves, by one that the programmer does not have. */
+    private static void oneMoveTooMany() {
+        LightingDesk d = fullDesk();
+        d.release(-1);
+        d.set(30, 9);
+        d.record(1, 20, false);
+        hold(d, 12, 7);
+        Check.fails(IllegalStateException.class, () -> d.record(1, 10, true));
+        Check.is(1, () -> d.cue(1, -1, 0));
+        Check.is(12, () -> d.record(1, 10, false));
+        Check.fails(IllegalStateException.class, () -> d.record(1, 10, true));
+        Check.fails(IllegalStateException.class, () -> d.block(1, 20, true));
+        Check.is(589, () -> d.count(1));
+        Check.is(1, () -> d.delete(1, 20, false));
+        d.release(-1);
+        d.record(1, 20, false);
+        Check.is(12, () -> d.block(1, 20, true));
+        Check.is(600, () -> d.count(1));
     }
 
     private static void deleteIsNeverRefused() {

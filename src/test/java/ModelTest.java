@@ -147,22 +147,14 @@ public final class ModelTest {
     }
 
     private String both(StringBuilder calls, String text, IntSupplier mine, IntSupplier due) {
-        String got = answer(mine);
-        String want = answer(due);
+        String got = Check.answer(mine);
+        String want = Check.answer(due);
         calls.append("\n  ").append(text).append(" = ").append(got);
         if (!want.equals(got)) {
             System.out.println(calls + ", due is " + want);
         }
         Check.same(want, got);
         return got;
-    }
-
-    private static String answer(IntSupplier call) {
-        try {
-            return Integer.toString(call.getAsInt());
-        } catch (RuntimeException e) {
-            return e.getClass().getSimpleName();
-        }
     }
 
     private boolean compareState() {
@@ -212,6 +204,6 @@ public final class ModelTest {
     }
 
     private static boolean alike(IntSupplier mine, IntSupplier due) {
-        return answer(mine).equals(answer(due));
+        return Check.answer(mine).equals(Check.answer(due));
     }
 }
