@@ -5,8 +5,17 @@ import java.util.function.IntSupplier;
 final class Check {
     private static int wrong = 0;
     private static int done = 0;
+    private static String sentence = "";
+    private static int doneBefore = 0;
 
     private Check() {
+    }
+
+    /** The answers from here on are due by this sentence of the document. */
+    static void says(String words) {
+        closeSentence();
+        sentence = words;
+        doneBefore = done;
     }
 
     static void is(int want, IntSupplier call) {
@@ -39,9 +48,17 @@ final class Check {
     }
 
     static void end() {
+        closeSentence();
         System.out.println(done + " answers looked at, " + wrong + " not as due");
         if (wrong != 0 || done == 0) {
             System.exit(1);
+        }
+    }
+
+    private static void closeSentence() {
+        if (!sentence.isEmpty() && done == doneBefore) {
+            wrong++;
+            System.out.println("no answer was looked at for: " + sentence);
         }
     }
 
@@ -49,7 +66,8 @@ final class Check {
         done++;
         if (!want.equals(got)) {
             wrong++;
-            System.out.println(place() + ": answered " + got + ", due is " + want);
+            System.out.println(place() + ": answered " + got + ", due is " + want
+                    + (sentence.isEmpty() ? "" : ", by \"" + sentence + "\""));
         }
     }
 

@@ -8,18 +8,30 @@ import java.util.stream.Collectors;
 
 /** The public face of the document, and rule 1 of LANGUAGE.md: nothing else is to be seen. */
 public final class FaceTest {
+    private static final String ARGUMENT = " IllegalArgumentException";
+    private static final String STATE = " IllegalStateException";
+    private static final String ELEMENT = " NoSuchElementException";
+    private static final String INDEX = " IndexOutOfBoundsException";
     private static final String[] FACE = {
-        "boolean assign(int,int)", "int block(int,int,boolean)", "int count(int)", "int cue(int,int,int)",
-        "boolean delays(int,int,int,int)", "int delete(int,int,boolean)", "int go(int,boolean,int)",
-        "boolean kind(int,boolean)", "int look(int,int,int)", "boolean master(int,int)", "int out(int,int)",
-        "boolean palette(int,int,int)", "int playback(int,int)", "int record(int,int,boolean)",
-        "int release(int)", "boolean set(int,int)", "int source(int,int,int)",
-        "boolean times(int,int,int,int)", "int update(int,int)", "boolean use(int,int)"
+        "boolean kind(int,boolean)", "boolean set(int,int)", "boolean use(int,int)", "int release(int)",
+        "boolean palette(int,int,int)", "int record(int,int,boolean)" + ARGUMENT + STATE,
+        "int update(int,int)" + ELEMENT + STATE, "int delete(int,int,boolean)" + ELEMENT + STATE,
+        "int block(int,int,boolean)" + ELEMENT + STATE, "boolean times(int,int,int,int)",
+        "boolean delays(int,int,int,int)", "int look(int,int,int)" + ELEMENT + INDEX,
+        "int source(int,int,int)" + ELEMENT + INDEX, "int cue(int,int,int)" + INDEX,
+        "boolean assign(int,int)", "int go(int,boolean,int)" + ARGUMENT + ELEMENT,
+        "boolean master(int,int)", "int out(int,int)" + ARGUMENT, "int playback(int,int)" + INDEX,
+        "int count(int)"
     };
 
     public static void main(String[] args) throws Exception {
         Class<?> desk = LightingDesk.class;
+        Check.says("public final class LightingDesk");
         Check.same("public final", Modifier.toString(desk.getModifiers()));
+        Check.says("public static final int NONE = -1;");
+        Check.is(-1, () -> LightingDesk.NONE);
+        Check.same("public static final int LightingDesk.NONE", desk.getField("NONE").toGenericString());
+        Check.says("The public face");
         methodsAreTheFace(desk);
         membersAreHidden(desk);
         nestedClassesAreStatic(desk);
@@ -31,8 +43,11 @@ public final class FaceTest {
         for (Method m : desk.getDeclaredMethods()) {
             if (!Modifier.isPrivate(m.getModifiers())) {
                 Check.same("public", Modifier.toString(m.getModifiers()));
-                seen.add(m.getReturnType() + " " + m.getName() + Arrays.stream(m.getParameterTypes())
-                        .map(Class::getName).collect(Collectors.joining(",", "(", ")")));
+                String parameters = Arrays.stream(m.getParameterTypes())
+                        .map(Class::getName).collect(Collectors.joining(",", "(", ")"));
+                String thrown = Arrays.stream(m.getExceptionTypes())
+                        .map(e -> " " + e.getSimpleName()).collect(Collectors.joining());
+                seen.add(m.getReturnType() + " " + m.getName() + parameters + thrown);
             }
         }
         Check.same(new TreeSet<>(Arrays.asList(FACE)).toString(), seen.toString());
